@@ -570,10 +570,11 @@ public final class BoilerCascade {
             layers = readDigit(2, MOST_LAYERS);
             draft0 = readNumber(0, 99);
             draft1 = readNumber(0, 99);
-            boilers = 0;
-            readBoiler();
+            readBoiler(0);
+            boilers = 1;
             while (boilers < MOST_BOILERS && sees('b')) {
-                readBoiler();
+                readBoiler(boilers);
+                boilers++;
             }
             if (sees('t')) {
                 readTemperatures();
@@ -583,11 +584,10 @@ public final class BoilerCascade {
             return wrong || position < length ? position : NONE;
         }
 
-        private void readBoiler() {
+        private void readBoiler(int i) {
             readSign('b');
-            powers[boilers] = readNumber(1, 30);
-            flues[boilers] = readDigit(0, 1);
-            boilers++;
+            powers[i] = readNumber(1, 30);
+            flues[i] = readDigit(0, 1);
         }
 
         private void readTemperatures() {

@@ -246,6 +246,14 @@ public final class ActionsTest {
         undone(x, "a tick in which a kill begins", () -> x.tick(1, 0));
         x.tick(5, 0);
         undone(x, "ticks in which a kill fails", () -> x.tick(20, 1));
+        BoilerCascade y = Check.loaded("H20000b010t9090");
+        y.set(4, 5);
+        y.set(5, 0);
+        y.tick(3, 0);
+        Check.due("the run of a kill", y.about(12), 3);
+        undone(y, "a tick in which the run grows", () -> y.tick(1, 0));
+        undone(y, "a tick that ends the run", () -> y.tick(1, 5));
+        undone(y, "ticks in which the kill is done", () -> y.tick(2, 0));
     }
 
     private static void undoTakesBackFourteen() {

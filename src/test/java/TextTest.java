@@ -7,8 +7,11 @@ public final class TextTest {
         appendAndClear();
         errorPositions();
         everySignOfAText();
+        everyNumber();
+        theTextIsReadAnew();
         loads();
         loadForgets();
+        loadForgetsKills();
         loadThatThrowsChangesNothing();
         Check.end("TextTest");
     }
@@ -123,6 +126,40 @@ public final class TextTest {
         }
     }
 
+    private static String two(int v) {
+        return (v < 10 ? "0" : "") + v;
+    }
+
+    private static void everyNumber() {
+        for (int v = 0; v <= 99; v++) {
+            int wrongPower = v >= 40 ? 7 : 8;
+            error("H2" + two(v) + two(99 - v) + "b100", NONE);
+            error("H25050b" + two(v) + "1", v >= 1 && v <= 30 ? NONE : wrongPower);
+            for (int w = 0; w <= 99; w++) {
+                int wrong = w / 10 < v / 10 ? 13 : 14;
+                error("H25050b100t" + two(v) + two(w), w >= v ? NONE : wrong);
+            }
+        }
+    }
+
+    /** What was read before leaves no trace in what is read now. */
+    private static void theTextIsReadAnew() {
+        BoilerCascade x = new BoilerCascade();
+        Check.write(x, "H45050b310");
+        Check.due("a wrong text", x.errorPosition(), 8);
+        Check.write(x, "H35050b300b101t102030");
+        Check.due("a right one", x.errorPosition(), NONE);
+        Check.due("load()", x.load(), 2);
+        Check.due("layers", Check.layers(x), "10 20 30");
+        Check.write(x, "H35050b300");
+        Check.due("load() without t", x.load(), 1);
+        Check.due("layers", Check.layers(x), "40 40 40");
+        Check.write(x, "H85050b300b300b300t01");
+        Check.due("it ends too soon", x.errorPosition(), 21);
+        Check.due("reading alone changes nothing", x.about(6), 1);
+        Check.due("layers", Check.layers(x), "40 40 40");
+    }
+
     private static void loads() {
         BoilerCascade x = new BoilerCascade();
         Check.write(x, "H30799b010b301b150t008099");
@@ -170,6 +207,23 @@ public final class TextTest {
         x.setDraft(0, 3);
         x.save(0);
         x.save(1);
+        x.restore(0);
+        x.tick(1, 0);
+        x.save(0);
+        x.set(5, x.about(8) % 24);
+        x.set(4, 1);
+        x.set(3, 60);
+        x.setFlue(0, true);
+        x.setDraft(0, 99);
+        x.tick(20, 0);
+        x.set(3, 90);
+        x.set(5, x.about(8) % 24);
+        x.setFlue(1, false);
+        x.setFlue(0, false);
+        x.tick(1, 0);
+        Check.due("a kill is done or failed", x.about(14) + x.about(15) > 0 ? 1 : 0, 1);
+        Check.due("a kill goes on", x.about(13), 1);
+        Check.due("reason", x.about(10) > 0 ? 1 : 0, 1);
         Check.due("load()", x.load(), 2);
         Check.due("everything as at first", Check.picture(x), Check.picture(Check.loaded(text)));
         Check.badState("undo() after load()", () -> x.undo());
@@ -177,6 +231,26 @@ public final class TextTest {
         Check.badState("restore(1) after load()", () -> x.restore(1));
         x.save(1);
         Check.due("restore(1) after save(1)", x.restore(1), 0);
+    }
+
+    private static void loadForgetsKills() {
+        BoilerCascade x = Check.loaded("H20000b010t9090");
+        x.set(5, 0);
+        x.set(4, 1);
+        x.tick(1, 0);
+        x.set(4, 9);
+        x.set(5, 1);
+        x.tick(2, 0);
+        Check.due("one is done", x.about(14), 1);
+        Check.due("one goes on", x.about(12), 2);
+        x.load();
+        for (int what = 10; what <= 16; what++) {
+            Check.due("about(" + what + ") after load()", x.about(what), 0);
+        }
+        x.tick(1, 0);
+        x.set(5, 1);
+        x.tick(1, 0);
+        Check.due("the next one begins with 1", x.about(13), 1);
     }
 
     private static void loadThatThrowsChangesNothing() {
