@@ -355,14 +355,14 @@ public final class BoilerCascade {
 
     public int cheapestPurge(int m, int draws) throws IllegalArgumentException {
         requireTicks(m, draws);
-        int best = LEAST_SETTING[PURGE];
-        int leastFuel = Integer.MAX_VALUE;
+        int best = NONE;
+        int leastFuel = 0;
         for (int purge = LEAST_SETTING[PURGE]; purge <= MOST_SETTING[PURGE]; purge++) {
             trial.copyFrom(plant);
             trial.settings[PURGE] = purge;
             trial.passTicks(m, draws);
             int fuel = trial.fuel();
-            if (fuel < leastFuel) {
+            if (best == NONE || fuel < leastFuel) {
                 leastFuel = fuel;
                 best = purge;
             }
@@ -998,10 +998,10 @@ public final class BoilerCascade {
         /** The boiler whose turn it is to start; NONE if none can. */
         int firstToStart() {
             int best = NONE;
-            int fewest = Integer.MAX_VALUE;
+            int fewest = 0;
             for (int i = 0; i < count; i++) {
                 Boiler b = boilers[i];
-                if (b.waits() && b.fired < fewest && hasRoomFor(b)) {
+                if (b.waits() && (best == NONE || b.fired < fewest) && hasRoomFor(b)) {
                     best = i;
                     fewest = b.fired;
                 }

@@ -7,7 +7,8 @@ import java.util.List;
 public final class LanguageTest {
     private static final String PROGRAM = "src/main/java/BoilerCascade.java";
     private static final String[] RULED_OUT = {"import ", "package ", "->", "::", "try ", "catch", "finally",
-        "synchronized", "assert ", "static {", "System.", "Thread", "double", "float", "String.format", "Exact("};
+        "synchronized", "assert ", "static {", "System.", "Thread", "double", "float", "String.format", "Exact(",
+        "_VALUE"};
 
     public static void main(String[] args) throws IOException {
         List<String> lines = Files.readAllLines(Path.of(PROGRAM));
