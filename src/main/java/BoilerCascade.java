@@ -1127,8 +1127,11 @@ public final class BoilerCascade {
         }
 
         void remember(Plant plant) {
+            if (place >= states.length) {
+                place = 0;
+            }
             states[place].copyFrom(plant);
-            place = place + 1 < states.length ? place + 1 : 0;
+            place++;
             count = Math.min(count + 1, states.length);
         }
 
